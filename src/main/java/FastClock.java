@@ -219,7 +219,8 @@ public final class FastClock {
         int best = 0;
         int least = Integer.MAX_VALUE;
         // A row is a number of n digits, the first setting ahead, so that counting goes by rows.
-        for (int code = 0; code < choicesOf(n); code++) {
+        int choices = choicesOf(n);
+        for (int code = 0; code < choices; code++) {
             int cost = costOfRow(clock, n, code);
             if (cost < least) {
                 least = cost;

@@ -45,8 +45,66 @@ public final class ModelRuns {
                 System.out.println(NAMES[k] + " was asked only " + asked[k] + " times");
             }
         }
+        wrong += wrongTexts(runs * 300);
         System.out.println(wrong == 0 ? calls + " answers are as the model's" : wrong + " runs are not as the model's");
         if (wrong != 0) System.exit(1);
+    }
+
+    /** All short texts behind the beginning of a clause, and long ones by chance: FAULT, and MARGIN of each if it is a HOUSE. */
+    static int wrongTexts(int many) {
+        String signs = "p=10(!)&|; ";
+        int wrong = 0;
+        for (int length = 0; length <= 4; length++) {
+            int all = (int) Math.round(Math.pow(signs.length(), length));
+            for (int code = 0; code < all; code++) {
+                StringBuilder text = new StringBuilder("rush 5 ");
+                int rest = code;
+                for (int i = 0; i < length; i++) {
+                    text.append(signs.charAt(rest % signs.length()));
+                    rest /= signs.length();
+                }
+                wrong += wrongText(text.toString());
+                wrong += wrongText(text.append("p=1").toString());
+            }
+        }
+        Random random = new Random(99);
+        for (int i = 0; i < many && wrong < 5; i++) {
+            List<int[]> fed = new ArrayList<>();
+            feedText(random, fed);
+            StringBuilder text = new StringBuilder();
+            for (int[] call : fed) if (call[0] == 0 && text.length() < 100) text.append((char) call[1]);
+            wrong += wrongText(text.toString());
+        }
+        return wrong;
+    }
+
+    static int wrongText(String text) {
+        FastClock clock = new FastClock();
+        Model model = new Model();
+        int[][] people = {{2, 0, 3}, {2, 1, 0}, {2, 5, 9}, {4, 2, 1}, {8, 1, 20}};
+        for (int[] call : people) {
+            int[] c = {call[0], call[1], call[2], 0, 0};
+            answer(clock, c);
+            model.answer(c);
+        }
+        for (int i = 0; i < text.length(); i++) clock.feed(text.charAt(i));
+        int fault = Model.fault(text);
+        int house = clock.house();
+        if (house != (fault < 0 ? 0 : -10 - fault)) {
+            System.out.println("\"" + text + "\": " + house + ", the fault is " + fault);
+            return 1;
+        }
+        if (fault < 0) model.world.house = text;
+        for (int day = 0; day < 3; day++) {
+            for (int p = 0; p < 3; p++) {
+                if (clock.of(p, 4) == model.world.margin(p)) continue;
+                System.out.println("\"" + text + "\": MARGIN of " + p + " on day " + day + " is " + clock.of(p, 4));
+                return 1;
+            }
+            clock.day();
+            model.world = model.world.next();
+        }
+        return 0;
     }
 
     static int near(Random random, int low, int high) {

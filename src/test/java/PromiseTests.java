@@ -363,6 +363,7 @@ public final class PromiseTests {
         due("PERSON", x.of(0, 3), 0);
         due("DAY", x.told(0), 1);
         due("SETS", x.told(1), 1);
+        due("what it will cost", x.on(1, 0), 11 + 8 + 8 + 39);
         // LATE -11, 3 - 11, 7 - 4 - 11, 13
         due("day()", x.day(), 11 + 8 + 8 + 39);
         due("LEARNING", x.of(1, 3), 3 + 2);
@@ -374,6 +375,12 @@ public final class PromiseTests {
         x.believe(1, 0);
         x.day();
         due("cut toward 0", x.of(1, 3), -3);
+        x = with("00 00");
+        x.set(0, 5);
+        due("all EARLY", x.day(), 10);
+        x.set(0, -5);
+        due("all LATE", x.day(), 30);
+        due("nobody", new FastClock().day(), 0);
         endOfDays();
     }
 
@@ -433,6 +440,16 @@ public final class PromiseTests {
         read(x, "slow 1 s<9;rush 1 p=0&!s<9");
         due("inTime()", x.inTime(), 9);
         due("nobody", new FastClock().inTime(), 0);
+        // 120 LATE, a tenth less each day, cut: 10 behind 28 days, 9 from the 29th on
+        x = with("11");
+        x.believe(0, 60);
+        x.set(0, -60);
+        read(x, "rush 9 d=1");
+        due("behind 29", x.inTime(), 29);
+        read(x, "rush 9 d=2");
+        due("behind 30", x.inTime(), 30);
+        read(x, "rush 9 d=0");
+        due("not by then", x.inTime(), -5);
         x = with("00");
         x.set(1, 1);
         for (int i = 0; i < 6; i++) x.day();
@@ -558,7 +575,12 @@ public final class PromiseTests {
         x.day();
         // not set: 5 on the fifth day (99 + 20 EARLY), set: on the sixth
         due("on the sixth day", x.lasts(0, 10), 6);
-        read(x, "late 1");
+        // 120 LATE, 9 on the thirtieth day; set to 51 it stays at 9, to 52 at 8
+        x = with("11");
+        x.believe(0, 60);
+        x.set(0, -60);
+        due("thirty days", x.lasts(0, 51), 30);
+        due("more", x.lasts(0, 52), -5);
         x = with("00 39");
         // 9 LATE costs 27; at 3: 3 EARLY, 6 LATE: 21; at 60: 60 EARLY, 51 EARLY
         due("better", x.lasts(0, 3), -5);
@@ -964,6 +986,7 @@ public final class PromiseTests {
         due("image()", x.image(), 2);
         promise = 40;
         undo();
+        undoOfNotes();
         promise = 41;
         x = with("00 00 00");
         read(x, "late 1");
@@ -977,6 +1000,42 @@ public final class PromiseTests {
         for (int i = 0; i < 7; i++) due("count(" + i + ")", x.count(i), counts[i]);
         due("count(7)", x.count(7), -1);
         due("count(-1)", x.count(-1), -1);
+    }
+
+    /** All that is told by hand comes back, whatever took its place. */
+    private static void undoOfNotes() {
+        FastClock x = with("35 00");
+        x.set(0, 5);
+        x.see(0, 0);
+        x.see(1, -5);
+        x.rule(0, 10, 2);
+        x.rule(1, 3, 1);
+        x.book(1, -5);
+        x.book(0, 0);
+        for (char sign : "late 9".toCharArray()) x.feed(sign);
+        due("fast(0, 1)", x.fast(0, 1), 5);
+        due("ruled()", x.ruled(), 15 * 3);
+        due("looked()", x.looked(), -5);
+        x.image();
+        x.feed('z');
+        x.house();
+        for (char sign : "early 77".toCharArray()) x.feed(sign);
+        x.see(-1, 0);
+        x.see(1, 3);
+        x.see(0, 3);
+        x.rule(0, 0, -1);
+        x.rule(1, 1, 9);
+        x.rule(0, -60, 9);
+        x.book(-1, 0);
+        x.book(0, 100);
+        x.book(1, 100);
+        x.undo();
+        due("fast(0, 0)", x.fast(0, 0), 1);
+        due("fast(0, 1)", x.fast(0, 1), 5);
+        due("ruled()", x.ruled(), 15 * 3);
+        due("looked()", x.looked(), -5);
+        due("house()", x.house(), 0);
+        due("told(3)", x.told(3), 9);
     }
 
     private static void undo() {
