@@ -359,6 +359,7 @@ public final class EdgeTests {
         sentence("a TEST: a number likewise", """
             house'rush 1 p='=-19 house'rush 1 p=a'=-19 house'rush 1 p=00'=-20 house'rush 1 p=100'=-21 house'rush 1 p=-1'=-19
             person(0,0) house'rush 1 p<99;rush 2 p>99;rush 4 p<10;rush 8 p=10'=0 of(0,4)=5
+            house'rush 1 p>99|k>99|v>99|c>99|d>99|s>99'=1 of(0,4)=0 house'rush 1 p<99&k<99&v<99&c<99&d<99&s<99'=2 of(0,4)=1
             """);
         sentence("of one of PEOPLE p its number, k its KIND, v its v", """
             person(0,0) 4*person(1,5) person(6,9)
@@ -568,6 +569,8 @@ public final class EdgeTests {
         sentence("LASTS: the fewest DAYS (1 .. 30); -5: none", """
             lasts(0,0)=1 person(1,1) believe(0,60) set(0,-60) // not SET: 9 LATE from the 30th DAY on; at 51 FAST: 9, at 52: 8
             lasts(0,51)=30 lasts(0,52)=-5 lasts(0,-60)=1
+            new person(1,1) believe(0,-60) set(0,60) // not SET: 9 EARLY from the 30th DAY on, 6 where it is slow; SET: 0, 3 LATE where it is slow
+            house'slow 3 d=1'=0 lasts(0,-60)=30 house'slow 3 d=2'=1 lasts(0,-60)=-5
             new person(0,0) set(0,20) house'late 1;slow 40 d=1'=0 // 20 EARLY and, on DAY 1, 20 LATE
             lasts(0,19)=2 lasts(0,0)=2
             """);
@@ -598,7 +601,7 @@ public final class EdgeTests {
             person(0,0) set(0,1) call(1)=0 house'slow 60 p=0'=0 call(1)=59 set(0,0) call(1)=60 set(0,-1) call(1)=60 call(20)=60
             """);
         sentence("CALL: LATE that much less each, on each of these; of several the least", """
-            call(1)=0 person(1,5) believe(0,40) call(1)=40 call(2)=40 // 40, 20
+            call(1)=0 person(1,5) believe(0,40) call(1)=40 call(2)=40 call(3)=40 // 40, 20, 10
             call(4)=20 // 40, 20, 10, 5
             of(0,3)=40 house'late 1'=0 call(2)=20 house'late 0;early 0'=1 call(20)=0
             """);
@@ -613,6 +616,8 @@ public final class EdgeTests {
         sentence("PADDED: on any of n DAYS from now and today", """
             person(0,0) house'slow 5 d=0;slow 9 d=1;slow 3 d=2;slow 20 d=5'=0 padded(0,0)=5 padded(0,1)=9 padded(0,2)=9 padded(0,4)=9
             padded(0,5)=20 2*day() padded(0,0)=3 padded(0,2)=3 padded(0,3)=20 house'slow 7 s=9'=1 told(1)=2 padded(0,6)=0 padded(0,7)=7
+            new person(1,1) believe(0,-60) set(0,60) // 120 EARLY, a tenth less each DAY, cut: 15 behind 23, 14 behind 24, 9 from 29 on
+            house'slow 30 d=2'=0 padded(0,29)=15 padded(0,30)=21 house'slow 30 d=3'=1 padded(0,30)=16
             new person(1,1) believe(0,60) set(0,-60) house'rush 99 d<2;rush 99 d>2;slow 90 d=2'=0 padded(0,30)=-5
             padded(0,1)=21 // 120 less 99
             """);
